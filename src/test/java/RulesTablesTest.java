@@ -11,6 +11,8 @@ public final class RulesTablesTest {
         textTokens();
         textNesting();
         textValues();
+        textsAreLong();
+        faultsLeaveNothing();
         rule();
         ruleOf();
         take();
@@ -225,6 +227,40 @@ public final class RulesTablesTest {
         value("2048*1024*1024-1", Integer.MAX_VALUE);
         value("-(2048*1024*1024)", Integer.MIN_VALUE);
         value("2048*1024*1024<0", 1);
+    }
+
+    /** A text of 160 bytes whose like comes to so many ones and a last number. */
+    private static String longText(int last) {
+        StringBuilder s = new StringBuilder("win 3;draw 1;like ");
+        while (s.length() < 152) s.append("1+");
+        while (s.length() < 153) s.append(last);
+        return s.append(";ban 0;").toString();
+    }
+
+    private static void textsAreLong() {
+        LeagueOffice x = new LeagueOffice();
+        x.club(0, 0);
+        x.pass(9);
+        for (int i = 1; i <= 5; i++) {
+            due.is("10 a text of 160 bytes", longText(i).length(), 160);
+            due.is("10 long text " + i, Due.read(x, longText(i)), i);
+            x.rule(i, i);
+        }
+        int ones = longText(0).split("1\\+").length - 1;
+        due.is("10 text 0", x.like(0, 0), 0);
+        for (int i = 1; i <= 5; i++) due.is("10 like of long text " + i, x.like(0, i), ones + i);
+        due.is("10 like of the last one", x.like(0, 9), ones + 5);
+    }
+
+    private static void faultsLeaveNothing() {
+        LeagueOffice x = new LeagueOffice();
+        x.club(0, 0);
+        for (int i = 0; i < 20; i++) due.is("10 a long text with a fault", Due.read(x, longText(1).replace("ban 0;", "ban ;;")), -258);
+        due.is("10 count(4)", x.count(4), 1);
+        due.is("10 text 0 goes on", x.like(0, 0), 0);
+        due.is("10 a text behind them", Due.read(x, "win 3;draw 1;like 7;ban 0;"), 1);
+        x.rule(1, 0);
+        due.is("10 is what was told", x.like(0, 0), 7);
     }
 
     private static void rule() {
