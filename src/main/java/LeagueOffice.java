@@ -156,19 +156,19 @@ public final class LeagueOffice {
     public long like(int club, int day) {
         if (!book.isClub(club) || !book.hasCome(day)) return NO;
         tables.tally(day);
-        return tables.likeOf(club, day);
+        return tables.likeOf(club);
     }
 
     public int table(int step, int day, int place) {
         if (!inside(step, STEPS) || !book.hasCome(day)) return BAD;
         tables.tally(day);
-        return tables.clubAt(step, day, place);
+        return tables.clubAt(step, place);
     }
 
     public int place(int club, int day) {
         if (!book.isClub(club) || !book.hasCome(day)) return BAD;
         tables.tally(day);
-        return tables.placeOf(club, day);
+        return tables.placeOf(club);
     }
 
     // ---- players, cards
@@ -811,6 +811,9 @@ public final class LeagueOffice {
         private final Row takenClubs = new Row(TAKINGS), takenPoints = new Row(TAKINGS), takenFroms = new Row(TAKINGS);
         private final long[] points = new long[CLUBS];
         private final Row goals = new Row(CLUBS), made = new Row(CLUBS), won = new Row(CLUBS);
+        /** The like of each club, where it was asked since its sums changed. */
+        private final Row likes = new Row(CLUBS), asked = new Row(CLUBS);
+        private int likeDay;
 
         Tables(Book book, Texts texts) {
             this.book = book;
@@ -823,6 +826,8 @@ public final class LeagueOffice {
             goals.fill(0);
             made.fill(0);
             won.fill(0);
+            asked.fill(0);
+            likeDay = day;
             book.learn(day);
             for (int g = 0; g < book.kinds.size(); g++) {
                 int score = book.scores.get(g);
@@ -851,35 +856,34 @@ public final class LeagueOffice {
             goals.raise(club, goalsBy);
             made.raise(club, madeBy);
             won.raise(club, wonBy);
+            asked.put(club, 0);
         }
 
         long pointsOf(int club) {
             return club >= 0 && club < points.length ? points[club] : 0;
         }
 
-        int likeOf(int club, int day) {
-            return texts.askLike(day, goals.get(club), made.get(club), won.get(club));
+        int likeOf(int club) {
+            if (asked.get(club) == 0) likes.put(club, texts.askLike(likeDay, goals.get(club), made.get(club), won.get(club)));
+            asked.put(club, 1);
+            return likes.get(club);
         }
 
         /** The place of a club among those of its step, by the sums as they stand. */
-        int placeOf(int club, int day) {
-            int step = book.steps.get(club), ahead = 0, own = 0;
-            boolean asked = false;
+        int placeOf(int club) {
+            int step = book.steps.get(club), ahead = 0;
             for (int c = 0; c < book.steps.size(); c++) {
                 if (c == club || book.steps.get(c) != step) continue;
-                if (pointsOf(c) > pointsOf(club)) ahead++;
-                if (pointsOf(c) != pointsOf(club)) continue;
-                if (!asked) own = texts.askLike(day, goals.get(club), made.get(club), won.get(club));
-                asked = true;
-                int like = texts.askLike(day, goals.get(c), made.get(c), won.get(c));
-                if (like > own || like == own && c < club) ahead++;
+                long more = pointsOf(c) - pointsOf(club);
+                if (more == 0) more = (long) likeOf(c) - likeOf(club);
+                if (more > 0 || more == 0 && c < club) ahead++;
             }
             return ahead;
         }
 
-        int clubAt(int step, int day, int place) {
+        int clubAt(int step, int place) {
             for (int c = 0; c < book.steps.size(); c++) {
-                if (book.steps.get(c) == step && placeOf(c, day) == place) return c;
+                if (book.steps.get(c) == step && placeOf(c) == place) return c;
             }
             return NONE;
         }
@@ -1117,35 +1121,37 @@ public final class LeagueOffice {
         boolean tryAll(int club) {
             if (gather(book.steps.get(club)) > MOST_OPEN) return false;
             tables.tally(book.today);
-            ends = 1;
+            ends = 0;
             for (int i = 0; i < games.size(); i++) {
                 int game = games.get(i), day = book.days.get(game), kind = book.kinds.get(game);
                 wins.put(i, texts.askGame(WIN, day, 1, 1, kind, book.isLate(game)));
                 draws.put(i, texts.askGame(DRAW, day, 0, 0, kind, book.isLate(game)));
-                ends *= 3;
             }
-            for (int end = 0; end < ends; end++) tryEnd(club, end);
+            tryFrom(club, 0, tables.pointsOf(club));
             return true;
         }
 
-        private void tryEnd(int club, int end) {
-            long before = tables.pointsOf(club);
-            enterEnd(end, 1);
-            places.put(end, tables.placeOf(club, book.today));
-            if (end >= 0 && end < sums.length) sums[end] = tables.pointsOf(club) - before;
-            enterEnd(end, -1);
+        /** Tries all ends of the games from one on, the ones ahead of it being entered. */
+        private void tryFrom(int club, int i, long before) {
+            if (i >= games.size() || i >= MOST_OPEN) {
+                places.put(ends, tables.placeOf(club));
+                if (ends >= 0 && ends < sums.length) sums[ends] = tables.pointsOf(club) - before;
+                ends++;
+                return;
+            }
+            for (int how = 0; how < 3; how++) {
+                enter(i, how, 1);
+                tryFrom(club, i + 1, before);
+                enter(i, how, -1);
+            }
         }
 
-        /** Adds an end to the sums of the clubs, or takes it off again. */
-        private void enterEnd(int end, int sign) {
-            int rest = end;
-            for (int i = 0; i < games.size(); i++) {
-                int home = book.homes.get(games.get(i)), guest = book.guests.get(games.get(i));
-                if (rest % 3 == 0) enterWin(i, home, guest, sign);
-                else if (rest % 3 == 1) enterWin(i, guest, home, sign);
-                else enterDraw(i, home, guest, sign);
-                rest /= 3;
-            }
+        /** Adds an end of a game to the sums of its clubs, or takes it off again. */
+        private void enter(int i, int how, int sign) {
+            int home = book.homes.get(games.get(i)), guest = book.guests.get(games.get(i));
+            if (how == 0) enterWin(i, home, guest, sign);
+            else if (how == 1) enterDraw(i, home, guest, sign);
+            else enterWin(i, guest, home, sign);
         }
 
         private void enterWin(int i, int winner, int loser, int sign) {
@@ -1218,14 +1224,14 @@ public final class LeagueOffice {
                 left -= part;
                 if (c == club) own = part;
             }
-            return tables.placeOf(club, book.today) == 0 ? own + left : own;
+            return tables.placeOf(club) == 0 ? own + left : own;
         }
 
         /** What a club gets of all three thirds, each part cut. */
         private long part(int pence, int club, int clubs, int gates) {
             if (clubs < 1) return 0;
             long third = pence / 3, rest = pence - 2 * third;
-            int placeParts = clubs - tables.placeOf(club, book.today);
+            int placeParts = clubs - tables.placeOf(club);
             long byPlace = third * placeParts / Math.max(1, clubs * (clubs + 1) / 2);
             long byGates = gates > 0 ? rest * gateParts.get(club) / gates : rest / clubs;
             return third / clubs + byPlace + byGates;
