@@ -12,6 +12,11 @@ public final class ComingTest {
         needs();
         needsOfOthers();
         needsByTexts();
+        needsOfOneGame();
+        needsOfAllSix();
+        drawsByTexts();
+        losersHaveNotWon();
+        askedOneAfterAnother();
         due.end();
     }
 
@@ -170,5 +175,85 @@ public final class ComingTest {
         x.game(0, 0, 1, 5);
         due.is("32 the lowest bits of a long", x.needs(1, 0), (int) (2L * Integer.MAX_VALUE - 5 - Integer.MAX_VALUE + Integer.MAX_VALUE));
         due.is("32 below 0", x.needs(0, 1), -15);
+    }
+
+    private static void needsOfOneGame() {
+        LeagueOffice x = Due.clubs(3);
+        x.game(0, 1, 0, 5);
+        due.is("32 a win alone is enough", x.needs(1, 0), 3);
+        due.is("32 a draw is enough for the least one", x.needs(0, 0), 1);
+        due.is("32 behind by goals", x.needs(1, 1), 1);
+        due.is("32 ahead of 2 by its number, but for a loss", x.needs(0, 1), 1);
+        due.is("32 the last place", x.needs(1, 2), 0);
+        due.is("32 the last place", x.needs(0, 2), 0);
+        x.take(1, 4, 0);
+        due.is("32 a win is not enough", x.needs(1, 1), -1);
+        due.is("32 nor for the first place", x.needs(1, 0), -1);
+        due.is("32 what is enough always", x.needs(1, 2), 0);
+        x.take(0, 4, 0);
+        due.is("32 a win of the guest is not enough", x.needs(0, 0), -1);
+        due.is("32 a draw is", x.needs(0, 1), 1);
+    }
+
+    /** One that needs to win all six of its games, at home or as a guest. */
+    private static void needsOfAllSix() {
+        for (int home = 0; home < 2; home++) {
+            LeagueOffice x = Due.clubs(2);
+            for (int i = 0; i < 6; i++) x.game(0, home, 1 - home, i);
+            x.take(0, 18, 0);
+            due.is("32 all six", x.needs(0, 0), 18);
+            due.is("30 all six", x.can(0, 0), 0);
+            due.is("30 the other one can be second", x.can(1, 1), 1);
+            due.is("32 the other one needs a draw", x.needs(1, 0), 1);
+            x.take(0, 1, 0);
+            due.is("32 all six are not enough", x.needs(0, 0), -1);
+            due.is("31 the other one is sure", x.sure(1, 0), 1);
+            due.is("32 the other one needs nothing", x.needs(1, 0), 0);
+        }
+    }
+
+    private static void drawsByTexts() {
+        LeagueOffice x = Due.clubs(3);
+        Due.ruled(x, "win 9;draw goals*100+made*10+kind+late*20+3;like 0;ban 0;");
+        x.game(4, 1, 0, 5);
+        x.take(0, 20, 0);
+        due.is("32 a draw of none to none is more than a win", x.needs(0, 1), 27);
+        x.take(0, 7, 0);
+        due.is("32 it is just enough", x.needs(0, 1), 27);
+        due.is("30 with it", x.can(0, 0), 1);
+        x.take(0, 1, 0);
+        due.is("32 it is not enough", x.needs(0, 1), -1);
+        due.is("30 with it", x.can(0, 0), 2);
+    }
+
+    private static void losersHaveNotWon() {
+        LeagueOffice x = Due.clubs(3);
+        Due.ruled(x, "win 0;draw 0;like won;ban 0;");
+        x.game(0, 0, 1, 5);
+        x.game(0, 0, 1, 6);
+        due.is("30 none won less than the third one", x.can(2, 0), 2);
+        due.is("30 the third one, worst", x.can(2, 1), 2);
+        due.is("30 the first one", x.can(0, 1), 1);
+    }
+
+    /** What was asked of more games, or by greater places, does not stand in what is asked then. */
+    private static void askedOneAfterAnother() {
+        LeagueOffice x = Due.clubs(9);
+        for (int c = 5; c < 9; c++) x.step(c, c < 8 ? 1 : 2);
+        for (int i = 0; i < 6; i++) x.game(0, i % 2, 4, i);
+        x.game(0, 5, 6, 0);
+        x.take(4, 99, 0);
+        x.take(8, 50, 0);
+        due.is("30 of five", x.can(4, 1), 4);
+        due.is("30 of one alone", x.can(8, 1), 0);
+        due.is("31 of one alone", x.sure(8, 0), 1);
+        due.is("32 of five", x.needs(4, 0), -1);
+        due.is("32 of one alone", x.needs(8, 0), 0);
+        due.is("32 of three", x.needs(5, 0), 1);
+        due.is("30 of five", x.can(4, 0), 4);
+        due.is("30 of three", x.can(6, 1), 2);
+        due.is("30 of three", x.can(5, 0), 0);
+        due.is("32 of three, the last place", x.needs(7, 2), 0);
+        due.is("32 of three, none is its own", x.needs(7, 1), -1);
     }
 }

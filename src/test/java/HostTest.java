@@ -8,6 +8,7 @@ public final class HostTest {
         cellsCut();
         copy();
         copyOverlapping();
+        rowsApart();
         results();
         resultsOutside();
         resultsLeftOut();
@@ -131,6 +132,52 @@ public final class HostTest {
         x.cell(0, 3, 0);
         x.results(0, 0, 3, 1);
         due.is("39 as they were", x.known(0, 0), 607);
+    }
+
+    /** What an item of a sheet holds (0 .. 30): it is copied into sheet 3, of the same sort, and comes as goals. */
+    private static int item(LeagueOffice x, int sheet, int sort, int i) {
+        x.sheet(3, sort, 3);
+        x.copy(sheet, i, 3, 1, 1);
+        x.results(3, sort, 0, 1);
+        return x.known(0, 0) / 100;
+    }
+
+    /** A row that is made anew is 0 from its first item to its last one, and no other row changes. */
+    private static void rowsApart() {
+        int[] items = {0, 1, 20, 38, 39};
+        for (int anew = 0; anew < 3; anew++) {
+            LeagueOffice x = Due.clubs(2);
+            x.game(0, 0, 1, 0);
+            for (int s = 0; s < 3; s++) {
+                x.sheet(s, 1, 40);
+                for (int i = 0; i < 40; i++) x.cell(s, i, 1 + (i + 7 * s) % 29);
+            }
+            x.sheet(anew, 1, 40);
+            for (int s = 0; s < 3; s++) {
+                for (int i : items) due.is("37 sheet " + s + ", item " + i, item(x, s, 1, i), s == anew ? 0 : 1 + (i + 7 * s) % 29);
+            }
+            x.cell(anew, 0, 30);
+            x.cell(anew, 39, 29);
+            x.copy((anew + 1) % 3, 0, anew, 1, 38);
+            due.is("39 ahead of what came", item(x, anew, 1, 0), 30);
+            due.is("39 behind what came", item(x, anew, 1, 39), 29);
+            for (int i : new int[] {0, 1, 37}) due.is("39 what came, " + i, item(x, anew, 1, i + 1), 1 + (i + 7 * ((anew + 1) % 3)) % 29);
+            x.sheet(anew, 1, 4);
+            x.sheet(anew, 1, 40);
+            for (int i : items) due.is("37 made shorter and longer, item " + i, item(x, anew, 1, i), 0);
+        }
+        LeagueOffice y = Due.clubs(2);
+        y.game(0, 0, 1, 0);
+        for (int sort = 0; sort < 3; sort++) {
+            y.sheet(1, sort, 40);
+            y.cell(1, 0, 9);
+            y.cell(1, 39, 8);
+            y.sheet(1, -1, 0);
+            due.is("37 missing", y.copy(1, 0, 1, 0, 0), -11);
+            y.sheet(1, (sort + 1) % 3, 40);
+            due.is("37 of another sort, the first item", item(y, 1, (sort + 1) % 3, 0), 0);
+            due.is("37 of another sort, the last item", item(y, 1, (sort + 1) % 3, 39), 0);
+        }
     }
 
     private static void results() {

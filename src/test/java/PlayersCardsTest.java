@@ -19,6 +19,9 @@ public final class PlayersCardsTest {
         failEdges();
         undo();
         undoOfSeveral();
+        undoOfTheFirst();
+        wrongNoMore();
+        failWithNoGoals();
         due.end();
     }
 
@@ -56,6 +59,9 @@ public final class PlayersCardsTest {
         x.register(0, 0, 20);
         int[][] want = {{0, -1}, {4, -1}, {5, 2}, {9, 2}, {10, 3}, {19, 3}, {20, 0}, {399, 0}};
         for (int[] w : want) due.is("20 clubOf(0, " + w[0] + ")", x.clubOf(0, w[0]), w[1]);
+        x.register(0, 4, 4);
+        int[][] then = {{3, -1}, {4, 4}, {5, 2}, {10, 3}, {399, 0}};
+        for (int[] w : then) due.is("20 one told last from an earlier day on, " + w[0], x.clubOf(0, w[0]), w[1]);
         due.is("20 another one", x.clubOf(1, 5), 4);
         due.is("20 day -1", x.clubOf(0, -1), -2);
         due.is("20 day 400", x.clubOf(0, 400), -2);
@@ -366,5 +372,70 @@ public final class PlayersCardsTest {
         y.fail(0);
         due.is("27 nothing is left", y.fail(1), 0);
         due.is("28 untouched since", y.undo(0), 1);
+    }
+
+    /** The first game and the first club, and the last ones, are as all others. */
+    private static void undoOfTheFirst() {
+        LeagueOffice x = Due.clubs(3);
+        x.game(0, 0, 1, 0);
+        due.is("27 the second one", x.fail(1), 1);
+        due.is("27 the first one, nothing is left", x.fail(0), 0);
+        due.is("28 the second one's is as it left it", x.undo(1), 1);
+        due.is("28 the first one's none", x.undo(0), 0);
+
+        LeagueOffice y = Due.clubs(12);
+        for (int g = 0; g < 59; g++) y.game(1, 0, 1, 0);
+        y.game(0, 10, 11, 0);
+        due.is("27 the last but one", y.fail(10), 1);
+        due.is("27 the last one, nothing is left", y.fail(11), 0);
+        due.is("28 the last but one", y.undo(10), 1);
+        due.is("28 kind of the last game", y.gameTold(59, 0), 0);
+
+        LeagueOffice z = Due.clubs(3);
+        z.game(0, 0, 1, 9);
+        z.game(0, 0, 2, 0);
+        z.result(1, 1, 0);
+        due.is("27 half of them: the first one is given", z.fail(0), 1);
+        for (int i = 0; i < 2; i++) z.game(0, 2, 1, 9);
+        due.is("27 all of the other one are void", z.fail(1), 3);
+        due.is("28 the first game was changed since", z.undo(0), -3);
+        due.is("28 and is void still", z.gameTold(0, 0), 5);
+    }
+
+    private static void wrongNoMore() {
+        LeagueOffice x = season();
+        x.player();
+        x.played(2, 5);
+        x.played(2, 9);
+        due.is("26 two of one who is registered for none", x.wrong(-1), 2);
+        x.register(2, 0, 3);
+        due.is("26 one no more", x.wrong(-1), 1);
+        due.is("26 the other one", x.wrong(0), 9);
+        x.register(2, 2, 4);
+        due.is("26 none", x.wrong(-1), 0);
+        due.is("26 none", x.wrong(0), -1);
+        x.card(2, 8, 2);
+        due.is("26 of a day ahead of all registering", x.wrong(-1), 0);
+        x.register(2, 0, 2);
+        due.is("26 banned for another game", x.wrong(-1), 0);
+        x.card(2, 8, 2);
+        due.is("26 banned for this one", x.wrong(-1), 1);
+        due.is("26 banned for this one", x.wrong(0), 5);
+        x.fail(1);
+        due.is("26 another kind of it serves no ban", x.gameTold(5, 5), 0);
+        due.is("26 so it is wrong no more", x.wrong(-1), 0);
+    }
+
+    private static void failWithNoGoals() {
+        LeagueOffice x = Due.clubs(2);
+        x.game(0, 0, 1, 0);
+        x.game(0, 1, 0, 3);
+        x.result(0, 0, 0);
+        due.is("27 none to none is known", x.fail(0), 1);
+        due.is("27 it stays", x.gameTold(0, 0), 0);
+        due.is("27 the other one is given", x.gameTold(1, 0), 3);
+        due.is("28 undo", x.undo(0), 1);
+        x.game(0, 0, 1, 3);
+        due.is("27 one of three", x.fail(0), 3);
     }
 }

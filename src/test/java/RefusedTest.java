@@ -212,6 +212,9 @@ public final class RefusedTest {
         refused("34 below -1", x -> x.meet(-2), BAD);
         refused("34 the one is in one", x -> x.meet(4), STATE);
         refused("34 the other one is in one", x -> x.meet(403), STATE);
+        refused("34 the one is the other one of a meeting", x -> x.meet(204), STATE);
+        refused("34 the other one is the other one of a meeting", x -> x.meet(402), STATE);
+        refused("34 the one is the other one of the last meeting", x -> x.meet(104), STATE);
         refused("34 both are in one", x -> x.meet(1), STATE);
         refused("34 bad ahead of state", x -> x.meet(5), BAD);
         refused("34 bad ahead of state", x -> x.meet(500), BAD);

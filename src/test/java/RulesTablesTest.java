@@ -7,6 +7,7 @@ public final class RulesTablesTest {
         feedFull();
         textNumbers();
         textFull();
+        tapesAheadAreGone();
         textOrder();
         textTokens();
         textNesting();
@@ -22,6 +23,8 @@ public final class RulesTablesTest {
         like();
         table();
         place();
+        tableByTheOutermost();
+        othersAreZero();
         due.end();
     }
 
@@ -40,6 +43,13 @@ public final class RulesTablesTest {
         due.is("9 text()", x.text(), 1);
         due.is("9 feed of a byte above 127", x.feed(1, -1L), 1);
         due.is("9 such a byte begins no token", x.text(), -100);
+        bytes = 'w' | 'i' << 8 | 'n' << 16 | (long) '3' << 24 | (long) ';' << 32 | (long) ' ' << 40 | 10L << 48;
+        due.is("9 the highest byte is one, too", x.feed(8, bytes | 200L << 56), 8);
+        due.is("9 bytes above those that are taken", x.feed(1, 0x6162636465666768L), 9);
+        due.is("9 the eighth begins no token", x.text(), -107);
+        due.is("9 seven of them", x.feed(7, bytes | 200L << 56), 7);
+        due.is("9 and one more", x.feed(1, 'd' | 200L << 56), 8);
+        due.is("9 a word that is none", x.text(), -107);
     }
 
     private static void feedFull() {
@@ -83,6 +93,20 @@ public final class RulesTablesTest {
         due.is("10 by the last one", x.points(0, 0), 5);
     }
 
+    /** What a tape ahead of this one had does not stand behind its end. */
+    private static void tapesAheadAreGone() {
+        LeagueOffice x = new LeagueOffice();
+        due.is("10 too long", Due.read(x, "win 99999"), -104);
+        due.is("10 ends behind a number", Due.read(x, "win 9999"), -108);
+        due.is("10 no name", Due.read(x, "win goalss"), -104);
+        due.is("10 ends behind a name", Due.read(x, "win goals"), -109);
+        due.is("10 blanks behind", Due.read(x, "win 1    \n"), -110);
+        due.is("10 ends behind a sign", Due.read(x, "win 1+"), -106);
+        due.is("10 a whole one", Due.read(x, "win 1;draw 1;like 0;ban 0;"), 1);
+        due.is("10 one without its last part", Due.read(x, "win 1;draw 1;like 0;"), -120);
+        due.is("10 nothing", x.text(), -100);
+    }
+
     private static void fault(String text, int place) {
         due.is("10 '" + text + "'", Due.read(new LeagueOffice(), text), place < 0 ? 1 : -100 - place);
     }
@@ -118,6 +142,36 @@ public final class RulesTablesTest {
         fault("win 1 and not 1 or not not 1;draw 1;like 0;ban 0;", -1);
         fault("win 1 or or 1;draw 1;like 0;ban 0;", 9);
         fault("win 1 and;draw 1;like 0;ban 0;", 9);
+        fault("win not;draw 1;like 0;ban 0;", 7);
+        fault("win -;draw 1;like 0;ban 0;", 5);
+        fault("win (;draw 1;like 0;ban 0;", 5);
+        fault("win (not);draw 1;like 0;ban 0;", 8);
+        fault("win (-);draw 1;like 0;ban 0;", 6);
+        fault("win not and 1;draw 1;like 0;ban 0;", 8);
+        fault("win 1 or not or 1;draw 1;like 0;ban 0;", 13);
+        fault("win 1+;draw 1;like 0;ban 0;", 6);
+        fault("win 1*;draw 1;like 0;ban 0;", 6);
+        fault("win 1=;draw 1;like 0;ban 0;", 6);
+        fault("win *1;draw 1;like 0;ban 0;", 4);
+        fault("win <1;draw 1;like 0;ban 0;", 4);
+        fault("win and 1;draw 1;like 0;ban 0;", 4);
+        fault("win 1 not 1;draw 1;like 0;ban 0;", 6);
+        fault("win 1(2);draw 1;like 0;ban 0;", 5);
+        fault("win 3,draw 1;like 0;ban 0;", 5);
+        fault("win 3;draw 1;like 0", 19);
+        fault("win 3;draw 1;like", 17);
+        fault("win 3;draw 1", 12);
+        fault("win 3;draw", 10);
+        fault("win 3;", 6);
+        fault("win 3", 5);
+        fault("win", 3);
+        fault("wi", 0);
+        fault("win 3;draw 1;like 0;ban 0;\n", -1);
+        fault("\n win 3;draw 1;like 0;ban 0;", -1);
+        fault("win 3;draw 1;like 0;ban (0", 26);
+        fault("win 3;draw 1;like 0;ban not", 27);
+        fault("win 3;draw 1;like 0;ban -  ", 27);
+        fault("win 3;draw 1;like 0;ban 0 <", 27);
         fault("win ();draw 1;like 0;ban 0;", 5);
         fault("win (1;draw 1;like 0;ban 0;", 6);
         fault("win 1);draw 1;like 0;ban 0;", 5);
@@ -153,6 +207,28 @@ public final class RulesTablesTest {
         fault("win 1notgoals;draw", 5);
         fault("win 2goals;draw", 5);
         fault("\0win 3;draw 1;like 0;ban 0;", 0);
+        fault("winz 3;draw 1;like 0;ban 0;", 0);
+        fault("win goalsz;draw 1;like 0;ban 0;", 4);
+        fault("win goalsa;draw 1;like 0;ban 0;", 4);
+        fault("win 3;zdraw 1;like 0;ban 0;", 6);
+        fault("bin 3;draw 1;like 0;ban 0;", 0);
+        fault("win hoals;draw 1;like 0;ban 0;", 4);
+        fault("win 1 xr 1;draw 1;like 0;ban 0;", 6);
+        fault("wi n 3;draw 1;like 0;ban 0;", 0);
+        fault("win 3;dr\naw 1;like 0;ban 0;", 6);
+        fault("win 1 2;draw 1;like 0;ban 0;", 6);
+        fault("win 99 99;draw 1;like 0;ban 0;", 7);
+        fault("win 9999 9;draw 1;like 0;ban 0;", 9);
+        fault("win 99999;draw 1;like 0;ban 0;", 4);
+        fault("win goals 99999;draw 1;like 0;ban 0;", 10);
+        fault("win go als;draw 1;like 0;ban 0;", 4);
+        fault("win or;draw 1;like 0;ban 0;", 4);
+        fault("or win 3;draw 1;like 0;ban 0;", 0);
+        fault("goals 3;draw 1;like 0;ban 0;", 0);
+        fault("win ban;draw 1;like 0;ban 0;", 4);
+        fault("win 1;draw draw;like 0;ban 0;", 11);
+        fault("win 1;draw 1;like 0;ban 0;\u00e9", 26);
+        fault("win 1;draw 1;like 0;ban 0;  \n 7", 30);
     }
 
     private static void textNesting() {
@@ -206,6 +282,21 @@ public final class RulesTablesTest {
         value("1+1=2", 1);
         value("7 and 8", 1);
         value("7 and 0", 0);
+        value("1 and 1", 1);
+        value("0 and 1", 0);
+        value("0 and 0", 0);
+        value("-1 and 1", 1);
+        value("1 and -1", 1);
+        value("-1 and 0", 0);
+        value("1 or 1", 1);
+        value("0 or 1", 1);
+        value("-1 or 0", 1);
+        value("7 or 8", 1);
+        value("not -1", 0);
+        value("not 1", 0);
+        value("1 < 0", 0);
+        value("1 = 0", 0);
+        value("0 = 0", 1);
         value("0 or -3", 1);
         value("0 or 0", 0);
         value("not 0", 1);
@@ -227,6 +318,30 @@ public final class RulesTablesTest {
         value("2048*1024*1024-1", Integer.MAX_VALUE);
         value("-(2048*1024*1024)", Integer.MIN_VALUE);
         value("2048*1024*1024<0", 1);
+        valuesThatWrap();
+    }
+
+    private static void valuesThatWrap() {
+        String lowest = "(2048*1024*1024)", highest = "(2048*1024*1024-1)";
+        value(highest + "+1", Integer.MIN_VALUE);
+        value(lowest + "-1", Integer.MAX_VALUE);
+        value("0-" + lowest, Integer.MIN_VALUE);
+        value("-" + lowest + "-1", Integer.MAX_VALUE);
+        value(lowest + "*-1", Integer.MIN_VALUE);
+        value(highest + "*2", -2);
+        value("9999*9999*9999*9999", (int) (9999L * 9999 * 9999 * 9999));
+        value(lowest + "<" + highest, 1);
+        value(highest + "<" + lowest, 0);
+        value(lowest + "<0", 1);
+        value("0<" + lowest, 0);
+        value(lowest + "=-" + lowest, 1);
+        value("4096*1024*1024=0", 1);
+        value("4096*1024*1024 or 0", 0);
+        value("not 4096*1024*1024", 1);
+        value(lowest + " and 1", 1);
+        value("not " + lowest, 0);
+        value("256*256 and 256", 1);
+        value("0 or 256", 1);
     }
 
     /** A text of 160 bytes whose like comes to so many ones and a last number. */
@@ -287,6 +402,9 @@ public final class RulesTablesTest {
         x.rule(0, 30);
         int[][] want = {{0, 0}, {4, 0}, {5, 2}, {9, 2}, {10, 3}, {19, 3}, {20, 4}, {29, 4}, {30, 0}, {399, 0}};
         for (int[] w : want) due.is("12 ruleOf(" + w[0] + ")", x.ruleOf(w[0]), w[1]);
+        x.rule(2, 4);
+        int[][] then = {{3, 0}, {4, 2}, {5, 2}, {10, 3}, {399, 0}};
+        for (int[] w : then) due.is("12 one told last from an earlier day on, " + w[0], x.ruleOf(w[0]), w[1]);
         due.is("12 ruleOf(-1)", x.ruleOf(-1), -2);
         due.is("12 ruleOf(400)", x.ruleOf(400), -2);
     }
@@ -411,6 +529,7 @@ public final class RulesTablesTest {
         due.is("15 by the rule of the day", x.like(0, 0), 4);
         due.is("15 by the rule of the next day", x.like(0, 1), 1004);
         due.is("15 won", x.like(1, 2), 2005);
+        due.is("15 a draw is not won", x.like(2, 2), 5);
         due.is("15 day to come", x.like(0, 3), LeagueOffice.NO);
         due.is("15 day -1", x.like(0, -1), LeagueOffice.NO);
         due.is("15 club 3", x.like(3, 0), LeagueOffice.NO);
@@ -446,6 +565,52 @@ public final class RulesTablesTest {
         due.is("16 ahead of that", x.table(0, 0, 0), 2);
         x.step(4, 0);
         due.is("16 a club more", x.table(0, 1, 2), 4);
+    }
+
+    /** What one of the four is asked of stands in none of the others, in whatever order they are asked. */
+    private static void othersAreZero() {
+        LeagueOffice x = Due.clubs(2);
+        Due.ruled(x, "win won+cards+5;draw won+cards+3;like cards+kind+late+won*8;ban goals+made+won+late+2;");
+        x.player();
+        x.game(4, 0, 1, 0);
+        x.game(2, 0, 1, 0);
+        x.game(2, 1, 0, 0);
+        for (int i = 0; i < 3; i++) x.card(0, 1, 2);
+        x.result(0, 3, 1);
+        x.result(1, 4, 1);
+        x.result(2, 2, 2);
+        for (int i = 0; i < 2; i++) {
+            due.is("22 ban", x.bans(2), 2);
+            due.is("15 like of one that won", x.like(0, 0), 16);
+            due.is("14 points of one that won", x.points(0, 0), 13);
+            due.is("22 ban", x.bans(0), 2);
+            due.is("14 points of one that lost", x.points(1, 0), 3);
+            due.is("15 like of one that lost", x.like(1, 0), 0);
+            due.is("17 place", x.place(1, 0), 1);
+        }
+    }
+
+    /** Likes and points that are further from each other than an int can tell. */
+    private static void tableByTheOutermost() {
+        LeagueOffice x = Due.clubs(3);
+        Due.ruled(x, "win 0;draw 0;like 2048*1024*1024-(0<goals);ban 0;");
+        x.game(0, 2, 1, 0);
+        x.result(0, 1, 0);
+        int[] likes = {2, 0, 1};
+        for (int p = 0; p < 3; p++) due.is("16 by likes, place " + p, x.table(0, 0, p), likes[p]);
+        due.is("15 the highest like", x.like(2, 0), Integer.MAX_VALUE);
+        due.is("15 the lowest like", x.like(1, 0), Integer.MIN_VALUE);
+        Due.read(x, "win 2048*1024*1024-1+1;draw 0-1;like 0;ban 0;");
+        x.rule(2, 0);
+        x.game(0, 0, 1, 0);
+        x.result(1, 2, 0);
+        int[] points = {1, 0, 2};
+        for (int p = 0; p < 3; p++) due.is("16 by points, place " + p, x.table(0, 0, p), points[p]);
+        x.game(0, 0, 2, 0);
+        x.result(2, 2, 0);
+        int[] fewest = {1, 2, 0};
+        for (int p = 0; p < 3; p++) due.is("16 by points below all ints, place " + p, x.table(0, 0, p), fewest[p]);
+        due.is("14 points below all ints", x.points(0, 0), 2L * Integer.MIN_VALUE);
     }
 
     private static void place() {
