@@ -988,18 +988,16 @@ public final class LeagueOffice {
 
         void listWrongs() {
             marks.fill(0);
-            for (int p = 0; p < players; p++) markWrongs(p);
+            for (int p = 0; p < players; p++) {
+                holdGames(p);
+                for (int i = 0; i < playingPlayers.size(); i++) {
+                    int game = playingGames.get(i);
+                    if (playingPlayers.get(i) == p && !isFree(p, game)) marks.put(game, 1);
+                }
+            }
             wrongs.clear();
             for (int g = 0; g < book.kinds.size(); g++) {
                 if (marks.get(g) == 1) wrongs.add(g);
-            }
-        }
-
-        private void markWrongs(int player) {
-            holdGames(player);
-            for (int i = 0; i < playingPlayers.size(); i++) {
-                int game = playingGames.get(i);
-                if (playingPlayers.get(i) == player && !isFree(player, game)) marks.put(game, 1);
             }
         }
     }
@@ -1097,6 +1095,8 @@ public final class LeagueOffice {
         private final Tables tables;
         private final Row games = new Row(GAMES);
         private final Row wins = new Row(MOST_OPEN), draws = new Row(MOST_OPEN);
+        /** How each game ends: 0 its home wins, 1 none does, 2 its guest does. */
+        private final Row hows = new Row(MOST_OPEN);
         private final Row places = new Row(ENDS);
         private final long[] sums = new long[ENDS];
         private int ends;
@@ -1121,36 +1121,46 @@ public final class LeagueOffice {
         boolean tryAll(int club) {
             if (gather(book.steps.get(club)) > MOST_OPEN) return false;
             tables.tally(book.today);
-            ends = 0;
+            long before = tables.pointsOf(club);
+            ends = enterFirst();
+            for (int end = 0; end < ends && end < sums.length; end++) {
+                places.put(end, tables.placeOf(club));
+                sums[end] = tables.pointsOf(club) - before;
+                enterNext();
+            }
+            return true;
+        }
+
+        /** Enters the first end of every game: how many ends there are. */
+        private int enterFirst() {
+            int all = 1;
             for (int i = 0; i < games.size(); i++) {
                 int game = games.get(i), day = book.days.get(game), kind = book.kinds.get(game);
                 wins.put(i, texts.askGame(WIN, day, 1, 1, kind, book.isLate(game)));
                 draws.put(i, texts.askGame(DRAW, day, 0, 0, kind, book.isLate(game)));
+                hows.put(i, 0);
+                enter(i, 1);
+                all *= 3;
             }
-            tryFrom(club, 0, tables.pointsOf(club));
-            return true;
+            return all;
         }
 
-        /** Tries all ends of the games from one on, the ones ahead of it being entered. */
-        private void tryFrom(int club, int i, long before) {
-            if (i >= games.size() || i >= MOST_OPEN) {
-                places.put(ends, tables.placeOf(club));
-                if (ends >= 0 && ends < sums.length) sums[ends] = tables.pointsOf(club) - before;
-                ends++;
-                return;
-            }
-            for (int how = 0; how < 3; how++) {
-                enter(i, how, 1);
-                tryFrom(club, i + 1, before);
-                enter(i, how, -1);
+        /** Goes on to the next end of the last game; behind its last one to its first one, and to the next one of the game ahead. */
+        private void enterNext() {
+            boolean wraps = true;
+            for (int i = games.size() - 1; i >= 0 && wraps; i--) {
+                enter(i, -1);
+                wraps = hows.get(i) == 2;
+                hows.put(i, wraps ? 0 : hows.get(i) + 1);
+                enter(i, 1);
             }
         }
 
-        /** Adds an end of a game to the sums of its clubs, or takes it off again. */
-        private void enter(int i, int how, int sign) {
+        /** Adds the end of a game to the sums of its clubs, or takes it off again. */
+        private void enter(int i, int sign) {
             int home = book.homes.get(games.get(i)), guest = book.guests.get(games.get(i));
-            if (how == 0) enterWin(i, home, guest, sign);
-            else if (how == 1) enterDraw(i, home, guest, sign);
+            if (hows.get(i) == 0) enterWin(i, home, guest, sign);
+            else if (hows.get(i) == 1) enterDraw(i, home, guest, sign);
             else enterWin(i, guest, home, sign);
         }
 
@@ -1220,20 +1230,19 @@ public final class LeagueOffice {
             long own = 0, left = pence;
             for (int c = 0; c < book.steps.size(); c++) {
                 if (!book.isIn(step, c)) continue;
-                long part = part(pence, c, clubs, gates);
+                long part = part(pence, clubs, clubs - tables.placeOf(c), gateParts.get(c), gates);
                 left -= part;
                 if (c == club) own = part;
             }
             return tables.placeOf(club) == 0 ? own + left : own;
         }
 
-        /** What a club gets of all three thirds, each part cut. */
-        private long part(int pence, int club, int clubs, int gates) {
+        /** What one of so many clubs gets of all three thirds, by its parts of places and of all gates, each cut. */
+        private static long part(int pence, int clubs, int placeParts, int gateParts, int gates) {
             if (clubs < 1) return 0;
             long third = pence / 3, rest = pence - 2 * third;
-            int placeParts = clubs - tables.placeOf(club);
             long byPlace = third * placeParts / Math.max(1, clubs * (clubs + 1) / 2);
-            long byGates = gates > 0 ? rest * gateParts.get(club) / gates : rest / clubs;
+            long byGates = gates > 0 ? rest * gateParts / gates : rest / clubs;
             return third / clubs + byPlace + byGates;
         }
 

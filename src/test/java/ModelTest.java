@@ -42,7 +42,7 @@ public final class ModelTest {
         int players = below(5);
         for (int i = 0; i < players; i++) {
             is("player()", x.player(), y.player());
-            int club = below(y.clubs.size());
+            int club = near(y.clubs.size());
             is("register(" + i + ", " + club + ", 0)", x.register(i, club, 0), y.register(i, club, 0));
         }
         int games = below(3) == 0 ? below(40) : 0;
