@@ -17,6 +17,7 @@ public final class ComingTest {
         drawsByTexts();
         losersHaveNotWon();
         askedOneAfterAnother();
+        oneEndAlone();
         due.end();
     }
 
@@ -255,5 +256,24 @@ public final class ComingTest {
         due.is("30 of three", x.can(5, 0), 0);
         due.is("32 of three, the last place", x.needs(7, 2), 0);
         due.is("32 of three, none is its own", x.needs(7, 1), -1);
+    }
+
+    /** A place that comes by one end of nine alone: the one game is drawn, the other one is won, at home or not. */
+    private static void oneEndAlone() {
+        for (int turn = 0; turn < 4; turn++) {
+            LeagueOffice x = Due.clubs(4);
+            int home = turn % 2 == 0 ? 2 : 3;
+            if (turn < 2) x.game(0, 0, 1, 5);
+            x.game(0, home, 5 - home, 5);
+            if (turn >= 2) x.game(0, 0, 1, 5);
+            for (int c = 2; c < 4; c++) x.take(c, 1, 0);
+            due.is("30 drawn and won", x.can(2, 0), 0);
+            due.is("30 drawn and won, the other one", x.can(3, 0), 0);
+            due.is("32 a win is not enough always", x.needs(2, 0), -1);
+            due.is("32 a win, for the second place", x.needs(2, 1), 3);
+            for (int c = 2; c < 4; c++) x.take(c, 2, 0);
+            due.is("30 one point too few", x.can(2, 0), 1);
+            due.is("30 one of the others wins, or both have more", x.can(3, 1), 3);
+        }
     }
 }
